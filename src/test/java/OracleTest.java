@@ -60,11 +60,25 @@ public final class OracleTest {
         }
 
         void play() {
-            for (int i = 0; i < 3; i++) {
+            int kind = seed % 4;
+            int programs = lots.nextInt(9);
+            for (int i = 0; i < programs; i++) {
                 addWhole();
             }
+            int goals = kind == 1 ? 0 : lots.nextInt(7);
+            for (int i = 0; i < goals; i++) {
+                addGoal(program(), live());
+            }
             while (made < CALLS && wrong == 0) {
-                one();
+                if (kind == 1 && lots.nextInt(4) == 0) {
+                    rulesInUse();
+                } else if (kind == 2 && lots.nextInt(4) == 0) {
+                    fillAndShrink();
+                } else if (kind == 3 && lots.nextInt(4) == 0) {
+                    seek();
+                } else {
+                    one();
+                }
             }
         }
 
@@ -145,14 +159,16 @@ public final class OracleTest {
 
         private void allFound() {
             same(28, "foundSize()", () -> x.foundSize(), () -> y.foundSize());
-            for (int i = -1; i < 5; i++) {
+            int n0 = y.found == null ? 0 : y.found.size();
+            for (int i = lots.nextInt(8) == 0 ? -1 : 0; i <= n0; i++) {
                 int n = i;
                 same(29, "foundAt(" + n + ")", () -> x.foundAt(n), () -> y.foundAt(n));
             }
         }
 
         private void everyInstruction(int p) {
-            for (int i = 0; i < 9; i++) {
+            int n0 = p >= 0 && p < y.programs.size() ? y.programs.get(p).size() : 0;
+            for (int i = lots.nextInt(8) == 0 ? -1 : 0; i <= n0; i++) {
                 int n = i;
                 same(6, "at(" + p + ", " + n + ")", () -> x.at(p, n), () -> y.at(p, n));
             }
@@ -171,27 +187,133 @@ public final class OracleTest {
                     () -> x.addRule(a, b, l), () -> y.addRule(a, b, l));
         }
 
-        /** A rule out of a short program and the least one that does the same. */
-        private void ruleFound() {
-            if (y.programs.size() >= 7) {
-                addRule(program(), program(), live());
+        private void clear(int p) {
+            while (made < CALLS && wrong == 0 && !y.programs.get(p).isEmpty()) {
+                same(4, "drop(" + p + ")", () -> x.drop(p), () -> y.drop(p));
+            }
+        }
+
+        private void addOps(int p, List<Op> ops) {
+            for (Op op : ops) {
+                same(3, "add(" + p + ", " + op + ")", () -> x.add(p, op.kind, op.first, op.second),
+                        () -> y.add(p, op.kind, op.first, op.second));
+            }
+        }
+
+        private void rewrite(int p, int l) {
+            same(33, "rewrite(" + p + ", " + l + ")", () -> x.rewrite(p, l), () -> y.rewrite(p, l));
+            everyInstruction(p);
+        }
+
+        private void allUsed() {
+            for (int i = 0; i < y.rules.size(); i++) {
+                int r = i;
+                same(34, "used(" + r + ")", () -> x.used(r), () -> y.used(r));
+            }
+            int r = number(9);
+            same(34, "used(" + r + ")", () -> x.used(r), () -> y.used(r));
+        }
+
+        /** Makes program 0 a left side, program 1 a right one, mostly such that a rule stands. */
+        private void makeRule() {
+            clear(0);
+            clear(1);
+            int n = 1 + lots.nextInt(3);
+            for (int i = 0; i < n; i++) {
+                addTo(0);
+            }
+            int l = live();
+            List<Op> left = y.programs.get(0);
+            if (lots.nextInt(3) != 0) {
+                for (Op op : left) {
+                    l &= ~op.writes();
+                }
+            } else if (y.goals.size() < 6) {
+                int g = y.goals.size();
+                addGoal(0, l);
+                if (y.goals.size() > g) {
+                    least(g, 2);
+                    allFound();
+                    if (y.found != null) {
+                        addOps(1, y.found);
+                    }
+                }
+            }
+            addRule(0, 1, l);
+        }
+
+        /** Fills program 2 with left sides of rules and others, and rewrites it. */
+        private void useRules() {
+            clear(2);
+            int pieces = lots.nextInt(7);
+            for (int i = 0; i < pieces; i++) {
+                if (y.rules.isEmpty() || lots.nextInt(3) == 0) {
+                    addTo(2);
+                } else {
+                    List<Op> left = y.rules.get(lots.nextInt(y.rules.size())).left;
+                    addOps(2, lots.nextBoolean() ? left : Plain.exchanged(left));
+                }
+            }
+            rewrite(2, live());
+            allUsed();
+        }
+
+        private void rulesInUse() {
+            if (y.programs.size() < 3) {
+                addWhole();
                 return;
             }
-            int p = y.programs.size();
-            same(2, "addProgram()", () -> x.addProgram(), () -> y.addProgram());
-            int n = 1 + lots.nextInt(3);
+            if (lots.nextInt(3) != 0) {
+                makeRule();
+            }
+            useRules();
+        }
+
+        private void cheapest(int g, int m) {
+            same(25, "cheapest(" + g + ", " + m + ")",
+                    () -> x.cheapest(g, m), () -> y.cheapest(g, m));
+            allFound();
+        }
+
+        /** A goal, some of whose rows are open or otherwise, and a search for it with prices. */
+        private void seek() {
+            int g = goal();
+            int open = lots.nextInt(20) == 0 ? 100 : lots.nextInt(5);
+            for (int i = 0; i < open; i++) {
+                int row = number(128);
+                same(18, "openRow(" + g + ", " + row + ")",
+                        () -> x.openRow(g, row), () -> y.openRow(g, row));
+            }
+            char k = kind();
+            int c = within(1, 9);
+            same(8, "price('" + k + "', " + c + ")", () -> x.price(k, c), () -> y.price(k, c));
+            if (lots.nextBoolean()) {
+                least(g, within(0, 3));
+                allFound();
+            }
+            cheapest(g, within(0, 3));
+        }
+
+        private void shrink(int p) {
+            int w = within(1, 3);
+            int l = live();
+            same(35, "shrink(" + p + ", " + w + ", " + l + ")",
+                    () -> x.shrink(p, w, l), () -> y.shrink(p, w, l));
+            everyInstruction(p);
+        }
+
+        private void fillAndShrink() {
+            if (y.programs.isEmpty()) {
+                addWhole();
+                return;
+            }
+            int p = lots.nextInt(y.programs.size());
+            clear(p);
+            int n = 2 + lots.nextInt(8);
             for (int i = 0; i < n; i++) {
                 addTo(p);
             }
-            int l = live();
-            int g = y.goals.size();
-            addGoal(p, l);
-            if (y.goals.size() > g) {
-                least(g, 2);
-                allFound();
-                keep();
-                addRule(p, y.programs.size() - 1, l);
-            }
+            shrink(p);
         }
 
         private void one() {
@@ -254,7 +376,7 @@ public final class OracleTest {
                     break;
                 }
                 case 18: {
-                    if (lots.nextInt(4) == 0) {
+                    if (lots.nextInt(3) == 0) {
                         addGoal(p, l);
                     }
                     break;
@@ -299,10 +421,7 @@ public final class OracleTest {
                     break;
                 }
                 case 30: case 31: {
-                    int m = within(0, 3);
-                    same(25, "cheapest(" + g + ", " + m + ")",
-                            () -> x.cheapest(g, m), () -> y.cheapest(g, m));
-                    allFound();
+                    cheapest(g, within(0, 3));
                     break;
                 }
                 case 32: case 33: {
@@ -330,27 +449,10 @@ public final class OracleTest {
                     same(31, "unlike(" + length + ")", () -> x.unlike(length), () -> y.unlike(length));
                     break;
                 }
-                case 37: case 38: ruleFound(); break;
-                case 39: case 40: {
-                    same(33, "rewrite(" + p + ", " + l + ")",
-                            () -> x.rewrite(p, l), () -> y.rewrite(p, l));
-                    everyInstruction(p);
-                    break;
-                }
-                case 41: {
-                    for (int i = -1; i < 9; i++) {
-                        int r = i;
-                        same(34, "used(" + r + ")", () -> x.used(r), () -> y.used(r));
-                    }
-                    break;
-                }
-                case 42: {
-                    int w = within(1, 3);
-                    same(35, "shrink(" + p + ", " + w + ", " + l + ")",
-                            () -> x.shrink(p, w, l), () -> y.shrink(p, w, l));
-                    everyInstruction(p);
-                    break;
-                }
+                case 37: case 38: addRule(p, o, l); break;
+                case 39: case 40: rewrite(p, l); break;
+                case 41: allUsed(); break;
+                case 42: shrink(p); break;
                 case 43: same(36, "checksum()", () -> x.checksum(), () -> y.checksum()); break;
                 case 44: {
                     same(37, "openShare(" + g + ")", () -> x.openShare(g), () -> y.openShare(g));
