@@ -387,6 +387,15 @@ public final class PromiseTest {
         due(15, "by nothing", true, () -> x.isSame(0, 4, 0));
         due(15, "by the register 1", true, () -> x.isSame(0, 4, 2));
         due(15, "by the register 0", false, () -> x.isSame(0, 2, 1));
+        // The flag is 0 from just one state: the first one, or the last one.
+        Leastcode y = new Leastcode();
+        program(y, "z0 z1 i1 k01");
+        program(y, "o01 z1 b1 o01 z1 k10");
+        program(y, "n01 t0 f z1 b1 o01 z1 k10");
+        due(15, "just from 0", 0, () -> y.run(1, 0) % 2);
+        due(15, "apart from 0 alone", false, () -> y.isSame(0, 1, 4));
+        due(15, "just from 127", 0, () -> y.run(2, 127) % 2);
+        due(15, "apart from 127 alone", false, () -> y.isSame(2, 0, 4));
         due(15, "first", BOUNDS, () -> x.isSame(5, 0, 8));
         due(15, "second", BOUNDS, () -> x.isSame(0, -1, 8));
         due(15, "parts", ARGUMENT, () -> x.isSame(0, 1, 8));
