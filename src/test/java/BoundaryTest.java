@@ -8,8 +8,9 @@ import java.util.NoSuchElementException;
  * The sentences of the document that name a boundary case, and of each one a test of its own: the
  * value at the bound and the one beyond it, the empty and the full, the wrap-around.
  *
- * <p>A sentence is told by its words, which must stand in ../shared/DOC.md, and each sentence of its
- * "Terms" must have a test. The exceptions have theirs in RefusalTest.
+ * <p>A sentence is told by its words, which must stand in ../shared/DOC.md, and each sentence of
+ * its "Terms" must have a test. The exceptions have theirs in RefusalTest, the lowest and the
+ * highest answers in AnswerTest.
  */
 public final class BoundaryTest {
     private static final Path DOCUMENT = Path.of("../shared/DOC.md");
@@ -231,7 +232,8 @@ public final class BoundaryTest {
     }
 
     private static void machine() {
-        sentence("It has the registers 0 and 1, words from 0 to 7, reckoned modulo 8, and a flag, 0 or 1.");
+        sentence("It has the registers 0 and 1, words from 0 to 7, reckoned modulo 8, and a flag, "
+                + "0 or 1.");
         goes("i0", 6, 3, 0, "7 3 0");
         goes("i0", 7, 3, 0, "0 3 0");
         goes("i1", 7, 7, 1, "7 0 1");
@@ -245,8 +247,8 @@ public final class BoundaryTest {
         due("8 less is nothing", true, () -> round.isSame(1, 2, 7));
         due("7 more is 1 less", true, () -> round.isSame(3, 4, 7));
 
-        sentence("A state is told as 16 times the register 0, 2 times the register 1, and the flag, "
-                + "summed up, from 0 to 127.");
+        sentence("A state is told as 16 times the register 0, 2 times the register 1, and the "
+                + "flag, summed up, from 0 to 127.");
         Leastcode x = bench("", "i0", "i1", "f");
         for (int state = 0; state < 128; state++) {
             int s = state;
@@ -261,8 +263,8 @@ public final class BoundaryTest {
         due("-1", ARGUMENT, () -> x.run(0, -1));
         due("128", ARGUMENT, () -> x.run(0, 128));
 
-        sentence("An instruction has a kind, and registers, first and second, as far as they have a "
-                + "meaning.");
+        sentence("An instruction has a kind, and registers, first and second, as far as they have "
+                + "a meaning.");
         for (char kind : KINDS.toCharArray()) {
             boolean both = BOTH.indexOf(kind) >= 0;
             boolean one = both || kind != 'f';
@@ -305,7 +307,8 @@ public final class BoundaryTest {
         goes("a00", 4, 7, 0, "0 7 1");
         goes("a11", 7, 7, 0, "7 6 1");
 
-        sentence("'s' the second is taken from the first, the flag being whether the first was less;");
+        sentence("'s' the second is taken from the first, the flag being whether the first was "
+                + "less;");
         goes("s01", 0, 0, 1, "0 0 0");
         goes("s01", 3, 3, 1, "0 3 0");
         goes("s01", 2, 3, 0, "7 3 1");
@@ -386,8 +389,8 @@ public final class BoundaryTest {
     }
 
     private static void order() {
-        sentence("Instructions are in an order: by kinds, as told here, then by the first register, "
-                + "then by the second; there are 47.");
+        sentence("Instructions are in an order: by kinds, as told here, then by the first "
+                + "register, then by the second; there are 47.");
         String[] all = instructions();
         for (int i = 0; i < all.length; i++) {
             int number = i;
@@ -407,8 +410,9 @@ public final class BoundaryTest {
     }
 
     private static void reading() {
-        sentence("'m' reads the second register, 'z' nothing, 'f' the flag, 'b' the first one and the "
-                + "flag, 'c' both and the flag; the others read all registers that have a meaning.");
+        sentence("'m' reads the second register, 'z' nothing, 'f' the flag, 'b' the first one and "
+                + "the flag, 'c' both and the flag; the others read all registers that have a "
+                + "meaning.");
         for (String word : instructions()) {
             int read = readBy(word);
             due(word + " reads the register 0", (read & 1) != 0, () -> waits("i0 " + word));
@@ -420,8 +424,8 @@ public final class BoundaryTest {
     }
 
     private static void writing() {
-        sentence("'k' and 'f' write the flag, 'a', 's', 'l' and 'r' the first register and the flag, "
-                + "the others the first register.");
+        sentence("'k' and 'f' write the flag, 'a', 's', 'l' and 'r' the first register and the "
+                + "flag, the others the first register.");
         for (String word : instructions()) {
             int written = writtenBy(word);
             due(word + " writes the register 0", (written & 1) != 0, () -> waits(word + " m10"));
@@ -601,8 +605,8 @@ public final class BoundaryTest {
     }
 
     private static void goals() {
-        sentence("At most 6 are numbered from 0, each of a program, as it is then, for parts that live "
-                + "at the end:");
+        sentence("At most 6 are numbered from 0, each of a program, as it is then, for parts that "
+                + "live at the end:");
         Leastcode x = bench("i0", "d0");
         due("no goal", BOUNDS, () -> x.openShare(0));
         for (int i = 0; i < 6; i++) {
@@ -642,7 +646,8 @@ public final class BoundaryTest {
     }
 
     private static void rows() {
-        sentence("a row, a state, can be told to become another one, or be open, so that all will do.");
+        sentence("a row, a state, can be told to become another one, or be open, so that all will "
+                + "do.");
         Leastcode x = bench("", "t0 t1 f");
         x.addGoal(0, 7);
         for (int state : new int[] {0, 1, 126, 127}) {
@@ -673,8 +678,8 @@ public final class BoundaryTest {
     }
 
     private static void counterexamples() {
-        sentence("A program meets a goal if, from all states whose rows are not open, the parts that "
-                + "live are as wanted.");
+        sentence("A program meets a goal if, from all states whose rows are not open, the parts "
+                + "that live are as wanted.");
         for (int state : new int[] {0, 127}) {
             Leastcode x = bench("");
             x.addGoal(0, 7);
@@ -705,8 +710,8 @@ public final class BoundaryTest {
         x.openRow(0, 127);
         due("all are open", MISSING, () -> x.counter(0, 2));
 
-        sentence("it has killed the program then, once each time that a counterexample is asked, or "
-                + "whether it meets; by nothing else.");
+        sentence("it has killed the program then, once each time that a counterexample is asked, "
+                + "or whether it meets; by nothing else.");
         Leastcode y = bench("", "i0");
         y.addGoal(0, 7);
         y.addGoal(1, 7);
@@ -777,8 +782,8 @@ public final class BoundaryTest {
     }
 
     private static void least() {
-        sentence("The least program of a goal, of at most 3 instructions, is found by trying all of "
-                + "each length, from 0 on,");
+        sentence("The least program of a goal, of at most 3 instructions, is found by trying all "
+                + "of each length, from 0 on,");
         Leastcode x = bench("", "m01", "f b1", "m01 i0 f", times("i0", 4));
         for (int p = 0; p < 5; p++) {
             x.addGoal(p, 7);
@@ -808,8 +813,8 @@ public final class BoundaryTest {
                     () -> y.least(0, n - 1));
         }
 
-        sentence("in the order of their first instructions, then of the second ones, and so on: the "
-                + "first that meets it.");
+        sentence("in the order of their first instructions, then of the second ones, and so on: "
+                + "the first that meets it.");
         Leastcode y = bench("f i0", "f b1", "i1 i0 f", "m01", "f");
         for (int p = 0; p < 5; p++) {
             y.addGoal(p, 7);
@@ -961,7 +966,8 @@ public final class BoundaryTest {
     }
 
     private static void ruleSides() {
-        sentence("At most 8 rules have a left side and a right side, of programs as they are then,");
+        sentence("At most 8 rules have a left side and a right side, of programs as they are "
+                + "then,");
         Leastcode x = bench("", "");
         due("none is used", BOUNDS, () -> x.used(0));
         for (int i = 0; i < 8; i++) {
@@ -1190,8 +1196,8 @@ public final class BoundaryTest {
         due("the first lot, which is beyond an int ahead of the modulus",
                 (2147483647 - 48271) % 47, () -> x.foundAt(0));
 
-        sentence("A walk for a goal has a length and steps: its instructions are lots, z modulo 47, in "
-                + "order;");
+        sentence("A walk for a goal has a length and steps: its instructions are lots, z modulo "
+                + "47, in order;");
         for (int length = 1; length <= 4; length++) {
             Leastcode y = bench("");
             y.addGoal(0, 0);
@@ -1259,7 +1265,8 @@ public final class BoundaryTest {
         // the place 0 comes 0 (0).
         walks(2, 2, 2, 0, "0 15", 64320675);
 
-        sentence("is less than 20 times the steps that are left behind this one, divided by all, cut.");
+        sentence("is less than 20 times the steps that are left behind this one, divided by all, "
+                + "cut.");
         // 13 (96); 20 (192), the lot 13 against 13 and a third: not; 22 (192), 73 against 6: not;
         // 12 (0).
         walks(265, 1, 3, 0, "12", 1439101472);
@@ -1277,10 +1284,10 @@ public final class BoundaryTest {
     }
 
     private static void sums() {
-        sentence("Returns 7 at first, then for each program 31 times itself plus the number of each "
-                + "instruction, one behind the other, then 31 times itself plus its cost; then for "
-                + "each goal 31 times itself plus how many rows are open; then 31 times itself plus "
-                + "z.");
+        sentence("Returns 7 at first, then for each program 31 times itself plus the number of "
+                + "each instruction, one behind the other, then 31 times itself plus its cost; "
+                + "then for each goal 31 times itself plus how many rows are open; then 31 times "
+                + "itself plus z.");
         due("of nothing", 7L * 31 + 1, () -> new Leastcode().checksum());
         Leastcode x = bench("");
         due("of an empty program", 7L * 31 * 31 + 1, () -> x.checksum());
@@ -1342,5 +1349,12 @@ public final class BoundaryTest {
         w.addRule(3, 4, 6);
         due("of rules and dead ones", true, () -> w.isSound());
         due("the dead ones stay", 8, () -> w.size(0));
+        Leastcode all = bench("", "");
+        for (int i = 0; i < 8; i++) {
+            all.add(0, 'i', 0, 0);
+            all.addRule(0, 1, 6);
+        }
+        due("of all rules that there can be", true, () -> all.isSound());
+        due("none of them was taken", 0, () -> all.used(7));
     }
 }

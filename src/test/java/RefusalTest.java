@@ -2,8 +2,6 @@ import java.io.IOException;
 import java.nio.charset.StandardCharsets;
 import java.nio.file.Files;
 import java.nio.file.Path;
-import java.util.ArrayList;
-import java.util.List;
 import java.util.NoSuchElementException;
 import java.util.Set;
 import java.util.TreeSet;
@@ -40,6 +38,8 @@ public final class RefusalTest {
     private static final int[] NO_PROGRAM = {-1, 6, 7, 8, LOWEST, HIGHEST};
     private static final int[] NO_GOAL = {-1, 2, 5, 6, LOWEST, HIGHEST};
     private static final int[] NO_RULE = {-1, 2, 7, 8, LOWEST, HIGHEST};
+    /** Of the program 0, which has two instructions. */
+    private static final int[] NO_INDEX = {-1, 2, 7, 8, LOWEST, HIGHEST};
     private static final int[] NO_STATE = {-1, 128, LOWEST, HIGHEST};
     private static final int[] NO_PARTS = {-1, 8, LOWEST, HIGHEST};
     private static final int[] NO_REGISTER = {-1, 2, LOWEST, HIGHEST};
@@ -115,7 +115,8 @@ public final class RefusalTest {
         shares();
         firstListed();
         everyLine(Files.readString(DOCUMENT, StandardCharsets.UTF_8));
-        System.out.println(lines.size() + " lines, " + calls + " refused calls, " + wrong + " wrong");
+        System.out.println(
+                lines.size() + " lines, " + calls + " refused calls, " + wrong + " wrong");
         if (wrong != 0) {
             System.exit(1);
         }
@@ -133,7 +134,7 @@ public final class RefusalTest {
         int number = 0;
         for (String each : document.split("\n")) {
             if (each.startsWith("## Promise ")) {
-                number = Integer.parseInt(each.substring("## Promise ".length(), each.indexOf(':')));
+                number = Integer.parseInt(each.replaceAll("[^0-9]*([0-9]+):.*", "$1"));
             } else if (each.startsWith("Throws ")) {
                 all.add(number + " " + each.substring("Throws ".length()).replace("`", ""));
             }
@@ -304,7 +305,8 @@ public final class RefusalTest {
     }
 
     /** Of two benches that had the same calls one refuses a call more: it must change nothing. */
-    private static void refused(String what, Class<? extends Exception> want, Script ahead, Call call) {
+    private static void refused(
+            String what, Class<? extends Exception> want, Script ahead, Call call) {
         calls++;
         for (int part = 0; part < PARTS; part++) {
             Leastcode one = new Leastcode();
@@ -372,7 +374,8 @@ public final class RefusalTest {
         refused("a ninth, of empty ones", FULL, FILL, x -> x.addProgram());
 
         noProgram(3, (x, p) -> x.add(p, 'i', 0, 0));
-        line(3, "IllegalArgumentException if there is no such kind, or a register that has a meaning");
+        line(3, "IllegalArgumentException if there is no such kind, or a register that has a "
+                + "meaning");
         for (char kind : NO_KIND) {
             refused("kind " + (int) kind, ARGUMENT, RICH, x -> x.add(0, kind, 0, 0));
         }
@@ -400,7 +403,7 @@ public final class RefusalTest {
 
         noProgram(6, (x, p) -> x.at(p, 0));
         line(6, "NoSuchElementException if there is none");
-        refusedEach(new int[] {-1, 2, 7, 8, LOWEST, HIGHEST}, MISSING, RICH, (x, i) -> x.at(0, i));
+        refusedEach(NO_INDEX, MISSING, RICH, (x, i) -> x.at(0, i));
         refused("of an empty one", MISSING, RICH, x -> x.at(2, 0));
         refused("of a full one", MISSING, both(RICH, FILL_0), x -> x.at(0, 8));
         refused("what was dropped", MISSING, both(RICH, x -> x.drop(0)), x -> x.at(0, 1));
@@ -432,14 +435,14 @@ public final class RefusalTest {
         noProgram(12, (x, p) -> x.lives(p, 0, 7));
         noParts(12, (x, l) -> x.lives(0, 0, l));
         line(12, "NoSuchElementException if there is no such instruction");
-        refusedEach(new int[] {-1, 2, 8, LOWEST, HIGHEST}, MISSING, RICH, (x, i) -> x.lives(0, i, 7));
+        refusedEach(NO_INDEX, MISSING, RICH, (x, i) -> x.lives(0, i, 7));
         refused("of an empty one", MISSING, RICH, x -> x.lives(2, 0, 7));
         refused("of a full one", MISSING, both(RICH, FILL_0), x -> x.lives(0, 8, 7));
 
         noProgram(13, (x, p) -> x.isDead(p, 0, 7));
         noParts(13, (x, l) -> x.isDead(0, 0, l));
         line(13, "NoSuchElementException if there is no such instruction");
-        refusedEach(new int[] {-1, 2, 8, LOWEST, HIGHEST}, MISSING, RICH, (x, i) -> x.isDead(0, i, 7));
+        refusedEach(NO_INDEX, MISSING, RICH, (x, i) -> x.isDead(0, i, 7));
         refused("of an empty one", MISSING, RICH, x -> x.isDead(2, 0, 7));
         refused("of a full one", MISSING, both(RICH, FILL_0), x -> x.isDead(0, 8, 7));
 
@@ -486,7 +489,8 @@ public final class RefusalTest {
         line(20, "NoSuchElementException if the program meets the goal");
         refused("it does", MISSING, RICH, x -> x.counter(1, 1));
         refused("by open rows alone", MISSING, both(RICH, OPEN_ALL), x -> x.counter(1, 4));
-        refused("as nothing lives", MISSING, both(RICH, x -> x.addGoal(0, 0)), x -> x.counter(2, 4));
+        refused("as nothing lives", MISSING, both(RICH, x -> x.addGoal(0, 0)),
+                x -> x.counter(2, 4));
 
         line(21, "IndexOutOfBoundsException if there is no such goal or program");
         noGoalIn((x, g) -> x.wrong(g, 0));
@@ -526,7 +530,8 @@ public final class RefusalTest {
     private static void walks() {
         noGoal(26, (x, g) -> x.walk(g, 2, 3));
         line(26, "IllegalArgumentException if a number is out of range");
-        refusedEach(new int[] {-1, 0, 5, LOWEST, HIGHEST}, ARGUMENT, RICH, (x, n) -> x.walk(0, n, 3));
+        refusedEach(new int[] {-1, 0, 5, LOWEST, HIGHEST}, ARGUMENT, RICH,
+                (x, n) -> x.walk(0, n, 3));
         refusedEach(new int[] {-1, 0, 201, LOWEST, HIGHEST}, ARGUMENT, RICH,
                 (x, n) -> x.walk(0, 2, n));
         refused("nothing was found", ARGUMENT, NOTHING_FOUND, x -> x.walk(0, 1, 0));
@@ -543,7 +548,8 @@ public final class RefusalTest {
         line(29, "NoSuchElementException if nothing was found, or it has none there");
         refused("of nothing", MISSING, NEW, x -> x.foundAt(0));
         refused("searched without an answer", MISSING, NOTHING_FOUND, x -> x.foundAt(0));
-        refusedEach(new int[] {-1, 3, 4, 8, LOWEST, HIGHEST}, MISSING, RICH, (x, i) -> x.foundAt(i));
+        refusedEach(new int[] {-1, 3, 4, 8, LOWEST, HIGHEST}, MISSING, RICH,
+                (x, i) -> x.foundAt(i));
         refused("of an empty one", MISSING, both(RICH, both(OPEN_ALL, x -> x.least(1, 3))),
                 x -> x.foundAt(0));
         refused("of four", MISSING, both(RICH, x -> x.walk(0, 4, 1)), x -> x.foundAt(4));
@@ -568,9 +574,9 @@ public final class RefusalTest {
         noProgramIn((x, p) -> x.addRule(1, p, 0));
         noProgramIn((x, p) -> x.addRule(p, p, 0));
         noParts(32, (x, l) -> x.addRule(1, 2, l));
-        line(32, "UnsupportedOperationException if the right one has not fewer instructions, they are "
-                + "not the same by these parts, or a rule has this left side, as it is told, not "
-                + "exchanged");
+        line(32, "UnsupportedOperationException if the right one has not fewer instructions, they "
+                + "are not the same by these parts, or a rule has this left side, as it is told, "
+                + "not exchanged");
         refused("itself", UNSUPPORTED, RICH, x -> x.addRule(1, 1, 0));
         refused("both are empty", UNSUPPORTED, RICH, x -> x.addRule(2, 2, 0));
         refused("as many", UNSUPPORTED, RICH, x -> x.addRule(5, 4, 7));
@@ -594,9 +600,11 @@ public final class RefusalTest {
 
     private static void shrinking() {
         noProgram(35, (x, p) -> x.shrink(p, 2, 7));
-        line(35, "IllegalArgumentException if a number is out of range, or the parts are not 0 to 7");
-        refusedEach(new int[] {-1, 0, 4, LOWEST, HIGHEST}, ARGUMENT, RICH, (x, w) -> x.shrink(3, w, 7));
-        refusedEach(new int[] {-1, 0, 4, LOWEST, HIGHEST}, ARGUMENT, RICH, (x, w) -> x.shrink(2, w, 7));
+        line(35, "IllegalArgumentException if a number is out of range, or the parts are not 0 to "
+                + "7");
+        int[] noWindow = {-1, 0, 4, LOWEST, HIGHEST};
+        refusedEach(noWindow, ARGUMENT, RICH, (x, w) -> x.shrink(3, w, 7));
+        refusedEach(noWindow, ARGUMENT, RICH, (x, w) -> x.shrink(2, w, 7));
         refusedEach(NO_PARTS, ARGUMENT, RICH, (x, l) -> x.shrink(3, 2, l));
         refusedEach(NO_PARTS, ARGUMENT, RICH, (x, l) -> x.shrink(2, 2, l));
     }
@@ -659,7 +667,8 @@ public final class RefusalTest {
                 x -> x.addRule(2, 1, 0));
         refused("addRule: not the same, full", UNSUPPORTED, both(RICH, FILL_RULES),
                 x -> x.addRule(1, 2, 7));
-        refused("addRule: told, full", UNSUPPORTED, both(RICH, FILL_RULES), x -> x.addRule(3, 4, 7));
+        refused("addRule: told, full", UNSUPPORTED, both(RICH, FILL_RULES),
+                x -> x.addRule(3, 4, 7));
         refused("rewrite: program, parts", BOUNDS, RICH, x -> x.rewrite(6, 8));
         refused("shrink: program, window", BOUNDS, RICH, x -> x.shrink(6, 0, 7));
         refused("shrink: program, parts", BOUNDS, RICH, x -> x.shrink(-1, 1, 8));

@@ -6,7 +6,8 @@ import java.util.NoSuchElementException;
  */
 public final class RoomTest {
     private static final int CALLS = 512;
-    private static final long MOST_BYTES = 2_000_000;
+    /** The room has 7.3 million fields and elements, of four bytes each if they are ints. */
+    private static final long MOST_BYTES = 4 * 7_300_000;
 
     public static void main(String[] args) {
         com.sun.management.ThreadMXBean meter =
